@@ -851,6 +851,8 @@ public final class SandFlags {
         private final int[] code = new int[SPREADS];
         private final int[] size = new int[SPREADS];
         private final int[] spreadOf = new int[CODES];
+        /** By spread and beach: how many guards are there. */
+        private final int[] there = new int[SPREADS * BEACHES];
         /** Whether fresh guards in one spread (times SPREADS) may go on to be, the others resting, in another. */
         private final boolean[] follows = new boolean[SPREADS * SPREADS];
         private final int[][] risk = new int[MOST_HOURS][SPREADS];
@@ -880,15 +882,24 @@ public final class SandFlags {
                 for (int n0 = 0; n0 <= all; n0++) {
                     for (int n1 = 0; n1 <= all - n0; n1++) {
                         for (int n2 = 0; n2 <= all - n0 - n1 && spread < SPREADS; n2++) {
-                            int n3 = all - n0 - n1 - n2;
-                            size[spread] = all;
-                            code[spread] = n0 + 5 * n1 + 25 * n2 + 125 * n3;
-                            spreadOf[code[spread]] = spread;
+                            numberSpread(spread, n0, n1, n2, all - n0 - n1 - n2);
                             spread++;
                         }
                     }
                 }
             }
+        }
+
+        private void numberSpread(int spread, int n0, int n1, int n2, int n3) {
+            there[spread * BEACHES] = n0;
+            there[spread * BEACHES + 1] = n1;
+            there[spread * BEACHES + 2] = n2;
+            there[spread * BEACHES + 3] = n3;
+            for (int beach = 0; beach < BEACHES; beach++) {
+                size[spread] += guardsAt(spread, beach);
+                code[spread] += guardsAt(spread, beach) * CODE_OF_ONE[beach];
+            }
+            spreadOf[code[spread]] = spread;
         }
 
         static boolean isTooLong(int a, int b) {
@@ -940,7 +951,7 @@ public final class SandFlags {
         }
 
         private int guardsAt(int spread, int beach) {
-            return code[spread] / CODE_OF_ONE[beach] % 5;
+            return there[spread * BEACHES + beach];
         }
 
         private boolean isNear(int beach, int other) {
@@ -986,10 +997,14 @@ public final class SandFlags {
             for (int spread = 0; spread < SPREADS; spread++) {
                 int sum = 0;
                 for (int beach = 0; beach < BEACHES; beach++) {
-                    sum += RISK_PARTS * today.headsAt(beach, hour) / (1 + guardsAt(spread, beach));
+                    sum += riskOf(today.headsAt(beach, hour), guardsAt(spread, beach));
                 }
                 risk[step][spread] = sum;
             }
+        }
+
+        private static int riskOf(int heads, int guardsThere) {
+            return guardsThere < 0 ? 0 : RISK_PARTS * heads / (1 + guardsThere);
         }
 
         private void weighGoingOn(int step) {
@@ -1097,7 +1112,7 @@ public final class SandFlags {
         private final int[] cell = new int[MOST_BATHERS];
         private final int[] out = new int[MOST_BATHERS];
         private final int[] state = new int[MOST_BATHERS];
-        private final int[] change = new int[MOST_BATHERS];
+        private final int[] changedAt = new int[MOST_BATHERS];
         private final int[] troubled = new int[MOST_BATHERS];
         private final int[] reached = new int[MOST_BATHERS];
         private final int[] freeFrom = new int[GUARDS];
@@ -1145,7 +1160,7 @@ public final class SandFlags {
             cell[bather] = c;
             out[bather] = howFar;
             state[bather] = WELL;
-            change[bather] = 0;
+            changedAt[bather] = 0;
             bathers++;
             return bather;
         }
@@ -1163,7 +1178,7 @@ public final class SandFlags {
         }
 
         int changeOf(int b) {
-            return change[b];
+            return changedAt[b];
         }
 
         int countIn(int wanted) {
@@ -1194,15 +1209,15 @@ public final class SandFlags {
             return state[b] != SAVED && state[b] != LOST;
         }
 
-        private void change(int b, int to) {
+        private void become(int b, int to) {
             state[b] = to;
-            change[b] = minute;
+            changedAt[b] = minute;
         }
 
         private void saveReached() {
             for (int b = 0; b < bathers; b++) {
                 if (state[b] == GONE_FOR && reached[b] == minute) {
-                    change(b, SAVED);
+                    become(b, SAVED);
                 }
             }
         }
@@ -1216,7 +1231,7 @@ public final class SandFlags {
                         out[b]--;
                     }
                     if (state[b] == WELL && out[b] >= TROUBLE_OUT) {
-                        change(b, IN_TROUBLE);
+                        become(b, IN_TROUBLE);
                         troubled[b] = minute;
                     }
                 }
@@ -1232,7 +1247,7 @@ public final class SandFlags {
             int to = (turn + 1) * CELLS / sweep;
             for (int b = 0; b < bathers; b++) {
                 if (state[b] == IN_TROUBLE && cell[b] >= from && cell[b] < to) {
-                    change(b, SEEN);
+                    become(b, SEEN);
                 }
             }
         }
@@ -1243,7 +1258,7 @@ public final class SandFlags {
                     int guard = freeGuard();
                     if (guard >= 0) {
                         int way = wayTo(b);
-                        change(b, GONE_FOR);
+                        become(b, GONE_FOR);
                         reached[b] = minute + way;
                         freeFrom[guard] = minute + 2 * way;
                     }
@@ -1269,7 +1284,7 @@ public final class SandFlags {
         private void loseLate() {
             for (int b = 0; b < bathers; b++) {
                 if (isInWater(b) && state[b] != WELL && troubled[b] <= minute - longTime) {
-                    change(b, LOST);
+                    become(b, LOST);
                 }
             }
         }
