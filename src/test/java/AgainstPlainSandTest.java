@@ -70,7 +70,8 @@ public final class AgainstPlainSandTest {
         runs(7, 120, 60, 12, CHILDREN);
         runs(8, 200, 120, 15, REPORTS);
         runs(9, 300, 300, 10, RULES);
-        runs(10, 60, 500, 8, all());
+        // with the counts at the end not above the 512 calls that are promised
+        runs(10, 60, 490, 8, all());
         CHECK.end();
     }
 

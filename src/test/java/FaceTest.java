@@ -44,6 +44,9 @@ public final class FaceTest {
                 String parameters = String.join(",", Arrays.stream(m.getParameterTypes()).map(Class::getName).toList());
                 got.add(m.getReturnType().getName() + " " + m.getName() + "(" + parameters + ")");
                 CHECK.isTrue(m + " is of the object", !Modifier.isStatic(m.getModifiers()));
+                List<Class<?>> thrown = List.of(m.getExceptionTypes());
+                CHECK.isTrue(m + " tells what it throws",
+                        thrown.equals(m.getName().equals("now") ? List.of(IllegalArgumentException.class) : List.of()));
             } else {
                 CHECK.isTrue(m + " is private", Modifier.isPrivate(m.getModifiers()));
                 CHECK.isTrue(m + " bears no public name", !isFaceName(m.getName()));
